@@ -44,7 +44,7 @@ public final class SoleGuest {
     private final LawReader reader = new LawReader();
     private final Judge judge = new Judge();
     private final Table table = new Table();
-    private final Walk walk = new Walk(table);
+    private final Walk walk = new Walk();
     private final Survey survey = new Survey();
     private final Turns turns = new Turns();
     private final Chances chances = new Chances();
@@ -253,7 +253,7 @@ public final class SoleGuest {
             return NOTHING;
         }
         surveyAll();
-        return what == 0 ? survey.mostSum : survey.mostCount;
+        return what == 0 ? survey.sums[survey.mostFirst] : survey.mostCount;
     }
 
     public int mostOf(int host) {
@@ -261,7 +261,7 @@ public final class SoleGuest {
             return NONE;
         }
         surveyAll();
-        return shown(askedIn(survey.mostFirst, town.hosts, host));
+        return shown(survey.askedBy(host, survey.mostFirst));
     }
 
     public int fair(int what) {
@@ -285,7 +285,7 @@ public final class SoleGuest {
         if (i >= survey.steadyCount) {
             return NONE;
         }
-        return shown(askedIn(survey.steadyRows[i], town.hosts, host));
+        return shown(survey.askedBy(host, survey.steadyRows[i]));
     }
 
     public int steadySum(int what) {
@@ -333,13 +333,13 @@ public final class SoleGuest {
             return NONE;
         }
         takeTold();
-        return walk.allCanGain(asks, hosts) ? 1 : 0;
+        return walk.allCanGain(table, asks, hosts) ? 1 : 0;
     }
 
     public int breaker() {
         takeTold();
         for (int set = 1; set < 1 << town.hosts; set++) {
-            if (walk.allCanGain(asks, set)) {
+            if (walk.allCanGain(table, asks, set)) {
                 return set;
             }
         }
@@ -578,21 +578,13 @@ public final class SoleGuest {
         return NOBODY;
     }
 
-    /** ASKINGS as one number, HOST 0 ahead, so that the order of the numbers is the order of the ASKINGS. */
+    /** ASKINGS as one number. */
     private static int packed(int[] asks, int hosts) {
         int all = 0;
         for (int h = 0; h < hosts; h++) {
             all = all * CHOICES + asks[h];
         }
         return all;
-    }
-
-    private static int askedIn(int packed, int hosts, int host) {
-        int rest = packed;
-        for (int h = hosts - 1; h > host; h--) {
-            rest /= CHOICES;
-        }
-        return rest % CHOICES;
     }
 
     /** All that an IMAGE keeps. */
@@ -612,7 +604,9 @@ public final class SoleGuest {
         private final Law[] laws = new Law[LAW_ROOM];
 
         private Street() {
-            Arrays.fill(told, NOBODY);
+            for (int h = 0; h < HOST_ROOM; h++) {
+                told[h] = NOBODY;
+            }
         }
 
         private boolean hasHost(int host) {
@@ -1243,10 +1237,13 @@ public final class SoleGuest {
         }
 
         private int gainAmong(int host, int choice, int askers) {
+            return shareAmong(host, askers) * (worth[cell(host, choice)] - lone) + SIXTIETHS * lone;
+        }
+
+        private int shareAmong(int host, int askers) {
             int others = askers & ~(1 << host);
             int rivals = custom == CUSTOM_LOWEST ? others & (1 << host) - 1 : others;
-            int share = shareAgainst(Integer.bitCount(rivals));
-            return share * (worth[cell(host, choice)] - lone) + SIXTIETHS * lone;
+            return shareAgainst(Integer.bitCount(rivals));
         }
 
         /** Sixtieths of a GUEST that a HOST has if so many others stand in his way. */
@@ -1280,19 +1277,14 @@ public final class SoleGuest {
 
     /** Goes through all that some HOSTS can ask, in order, the others asking as they did. */
     private static final class Walk {
-        private final Table table;
         private final int[] asks = new int[HOST_ROOM];
         private final int[] picks = new int[HOST_ROOM];
         /** By choices, HOSTS as bits. */
         private final int[] askers = new int[CHOICES];
         private final int[] gains = new int[HOST_ROOM];
 
-        private Walk(Table table) {
-            this.table = table;
-        }
-
         /** At the first: how many there are. */
-        private int begin(int[] from, int walkers) {
+        private int begin(Table table, int[] from, int walkers) {
             int all = 1;
             Arrays.fill(askers, 0);
             for (int h = 0; h < table.hosts; h++) {
@@ -1307,7 +1299,7 @@ public final class SoleGuest {
             return all;
         }
 
-        private void step(int walkers) {
+        private void step(Table table, int walkers) {
             for (int h = table.hosts - 1; h >= 0; h--) {
                 if ((walkers >> h & 1) == 1) {
                     boolean isLast = picks[h] + 1 >= table.choiceCounts[h];
@@ -1322,37 +1314,27 @@ public final class SoleGuest {
             }
         }
 
-        private int gainIf(int host, int choice) {
-            return table.gainAmong(host, choice, askers[choice]);
+        private int gainNow(Table table, int host) {
+            return table.gainAmong(host, asks[host], askers[asks[host]]);
         }
 
-        private boolean couldGain(int host, int more) {
-            for (int i = 0; i < table.choiceCounts[host]; i++) {
-                int choice = table.choices[cell(host, i)];
-                if (table.gainAmong(host, choice, askers[choice]) > more) {
-                    return true;
-                }
-            }
-            return false;
-        }
-
-        private boolean allCanGain(int[] from, int set) {
+        private boolean allCanGain(Table table, int[] from, int set) {
             for (int h = 0; h < table.hosts; h++) {
                 gains[h] = table.gainIf(from, h, from[h]);
             }
-            int all = begin(from, set);
+            int all = begin(table, from, set);
             for (int i = 0; i < all; i++) {
-                if (allGain(set)) {
+                if (allGain(table, set)) {
                     return true;
                 }
-                step(set);
+                step(table, set);
             }
             return false;
         }
 
-        private boolean allGain(int set) {
+        private boolean allGain(Table table, int set) {
             for (int h = 0; h < table.hosts; h++) {
-                if ((set >> h & 1) == 1 && gainIf(h, asks[h]) <= gains[h]) {
+                if ((set >> h & 1) == 1 && gainNow(table, h) <= gains[h]) {
                     return false;
                 }
             }
@@ -1360,15 +1342,27 @@ public final class SoleGuest {
         }
     }
 
-    /** MOST, FAIR and STEADY of a Table; kept while the next one asked about is like it, for it is dear. */
+    /**
+     * MOST, FAIR and STEADY of a Table; kept while the next one asked about is like it, for it is dear. ASKINGS are
+     * numbered in their order, without BARRED ones. For each HOST by himself it goes through what the others ask, so
+     * that each GAIN is reckoned once, and stands beside those that he would have by asking otherwise.
+     */
     private static final class Survey {
         private final Table seen = new Table();
-        private final Walk walk = new Walk(seen);
-        private final int[] steadyRows = new int[ALL_ASKINGS];
+        private final Walk walk = new Walk();
         private boolean isMade = false;
-        private int mostSum = 0;
-        private int mostCount = 0;
+        private int all = 0;
+        /** By HOSTS: how far apart ASKINGS are in which he picks the next of his choices, all others as they do. */
+        private final int[] strides = new int[HOST_ROOM];
+        /** By numbers of ASKINGS. */
+        private final int[] sums = new int[ALL_ASKINGS];
+        private final int[] leasts = new int[ALL_ASKINGS];
+        private final boolean[] unsteady = new boolean[ALL_ASKINGS];
+        private final int[] steadyRows = new int[ALL_ASKINGS];
+        private final int[] shares = new int[1 << HOST_ROOM];
+        private final int[] gains = new int[CHOICES];
         private int mostFirst = 0;
+        private int mostCount = 0;
         private int fairLeast = 0;
         private int fairCount = 0;
         private int steadyCount = 0;
@@ -1381,59 +1375,101 @@ public final class SoleGuest {
             }
             seen.become(table);
             isMade = true;
-            mostCount = 0;
-            fairCount = 0;
-            steadyCount = 0;
-            int everybody = (1 << seen.hosts) - 1;
-            int all = walk.begin(walk.asks, everybody);
+            all = 1;
+            for (int h = seen.hosts - 1; h >= 0; h--) {
+                strides[h] = all;
+                all *= seen.choiceCounts[h];
+            }
             for (int i = 0; i < all; i++) {
-                weigh();
-                walk.step(everybody);
+                sums[i] = 0;
+                leasts[i] = Integer.MAX_VALUE;
+                unsteady[i] = false;
             }
-        }
-
-        private void weigh() {
-            int sum = 0;
-            int least = Integer.MAX_VALUE;
-            boolean isSteady = true;
             for (int h = 0; h < seen.hosts; h++) {
-                int gain = walk.gainIf(h, walk.asks[h]);
-                sum += gain;
-                least = Math.min(least, gain);
-                isSteady = isSteady && !walk.couldGain(h, gain);
+                addHost(h);
             }
-            noteMost(sum);
-            noteFair(least);
-            if (isSteady) {
-                noteSteady(sum);
+            findBest();
+            findSteady();
+        }
+
+        private int askedBy(int host, int askings) {
+            int pick = askings / Math.max(1, strides[host]) % Math.max(1, seen.choiceCounts[host]);
+            return seen.choices[cell(host, pick)];
+        }
+
+        private void addHost(int host) {
+            for (int askers = 0; askers < shares.length; askers++) {
+                shares[askers] = seen.shareAmong(host, askers);
+            }
+            int others = (1 << seen.hosts) - 1 & ~(1 << host);
+            int rows = walk.begin(seen, walk.asks, others);
+            for (int i = 0; i < rows; i++) {
+                int first = 0;
+                for (int h = 0; h < seen.hosts; h++) {
+                    first += h == host ? 0 : walk.picks[h] * strides[h];
+                }
+                addChoices(host, first);
+                walk.step(seen, others);
             }
         }
 
-        private void noteMost(int sum) {
-            if (mostCount == 0 || sum > mostSum) {
-                mostSum = sum;
-                mostCount = 1;
-                mostFirst = packed(walk.asks, seen.hosts);
-            } else if (sum == mostSum) {
-                mostCount++;
+        private void addChoices(int host, int first) {
+            int count = seen.choiceCounts[host];
+            int stride = strides[host];
+            int alone = SIXTIETHS * seen.lone;
+            int best = alone;
+            int at = first;
+            for (int i = 0; i < count; i++) {
+                int cell = host * CHOICES + i;
+                int choice = seen.choices[cell];
+                int gain = shares[walk.askers[choice]] * (seen.worth[cell - i + choice] - seen.lone) + alone;
+                gains[i] = gain;
+                sums[at] += gain;
+                if (gain < leasts[at]) {
+                    leasts[at] = gain;
+                }
+                if (gain > best) {
+                    best = gain;
+                }
+                at += stride;
+            }
+            at = first;
+            for (int i = 0; i < count; i++) {
+                if (gains[i] < best) {
+                    unsteady[at] = true;
+                }
+                at += stride;
             }
         }
 
-        private void noteFair(int least) {
-            if (fairCount == 0 || least > fairLeast) {
-                fairLeast = least;
-                fairCount = 1;
-            } else if (least == fairLeast) {
-                fairCount++;
+        private void findBest() {
+            mostFirst = 0;
+            mostCount = 0;
+            fairLeast = leasts[0];
+            fairCount = 0;
+            for (int i = 0; i < all; i++) {
+                if (sums[i] > sums[mostFirst]) {
+                    mostFirst = i;
+                    mostCount = 0;
+                }
+                if (leasts[i] > fairLeast) {
+                    fairLeast = leasts[i];
+                    fairCount = 0;
+                }
+                mostCount += sums[i] == sums[mostFirst] ? 1 : 0;
+                fairCount += leasts[i] == fairLeast ? 1 : 0;
             }
         }
 
-        private void noteSteady(int sum) {
-            steadyGreatest = steadyCount == 0 ? sum : Math.max(steadyGreatest, sum);
-            steadyLeast = steadyCount == 0 ? sum : Math.min(steadyLeast, sum);
-            if (steadyCount < ALL_ASKINGS) {
-                steadyRows[steadyCount] = packed(walk.asks, seen.hosts);
-                steadyCount++;
+        private void findSteady() {
+            steadyCount = 0;
+            for (int i = 0; i < all; i++) {
+                if (!unsteady[i]) {
+                    steadyGreatest = steadyCount == 0 ? sums[i] : Math.max(steadyGreatest, sums[i]);
+                    steadyLeast = steadyCount == 0 ? sums[i] : Math.min(steadyLeast, sums[i]);
+                    steadyRows[steadyCount] = i;
+                    steadyCount++;
+                }
             }
         }
     }
