@@ -33,7 +33,29 @@ public final class OracleTest {
         for (int seed = from; seed < from + runs && checks.wrong() == 0; seed++) {
             new OracleTest(checks, seed).run();
         }
+        for (int custom = 0; custom <= 2 && checks.wrong() == 0; custom++) {
+            new OracleTest(checks, custom).alikeOfMany(custom, 5, 3);
+            new OracleTest(checks, custom).alikeOfMany(custom, 2, 6);
+            new OracleTest(checks, custom).alikeOfMany(custom, 4, 4);
+        }
         checks.close();
+    }
+
+    /** The Oracle goes through all rows and all outcomes of each, so that the runs can't ask it of many. */
+    private void alikeOfMany(int custom, int hosts, int guests) {
+        x.terms(0, custom);
+        o.terms(0, custom);
+        for (int h = 0; h < hosts; h++) due("host(1)", x.host(1), o.host(1));
+        for (int g = 0; g < guests; g++) due("guest(1)", x.guest(1), o.guest(1));
+        for (int h = 0; h < hosts; h++) {
+            for (int g = 0; g < guests; g++) {
+                int v = random.nextInt(12) - 2;
+                due("base(" + h + ", " + g + ", " + v + ")", x.base(h, g, v), o.base(h, g, v));
+            }
+        }
+        due("alike(0)", x.alike(0), o.alike(0));
+        due("alike(1)", x.alike(1), o.alike(1));
+        for (int g = 0; g < guests; g++) due("alikeOf(" + g + ")", x.alikeOf(g), o.alikeOf(g));
     }
 
     private void run() {

@@ -342,6 +342,15 @@ public final class PromisesTest {
         fault("worth base if if 1=1", 14);
         fault("worth bars", 6);
         fault("if", 0);
+        fault("barsz", 0);
+        fault("zbars", 0);
+        fault("abars", 0);
+        fault("bars{", 4);
+        fault("bars`", 4);
+        fault("worth 1:", 7);
+        fault("worth 1/", 8);
+        fault("worth 9", NONE);
+        fault("worth 0", NONE);
     }
 
     private static String times(String piece, int n) {
@@ -369,6 +378,11 @@ public final class PromisesTest {
         fault("bars if " + times("not ", 97) + "1=1", NONE);
         fault("bars if " + times("not ", 97) + "1=", 398);
         fault("bars if " + times("not ", 98), 400);
+        fault(times("!", 400), 0);
+        fault("bars" + times(" ", 396), NONE);
+        fault("worth" + times("[[[[[[[[1]]]]]]]]+", 21) + "[[[[[[[[1]]]]]]]]", NONE);
+        fault("worth" + times("[[[[[[[[1]]]]]]]]+", 21) + "[[[[[[[[1]]]]]]])", 399);
+        fault("worth" + times("[[[[[[[[1]]]]]]]]+", 21) + "[[[[[[[[10]]]]]]]", 400);
     }
 
     private static int worthBy(String text) {
@@ -575,6 +589,9 @@ public final class PromisesTest {
         due("fair in", x.fair(1), 2);
         x.force(NONE);
         x.terms(0, 1);
+        x.force(0);
+        due("barred, by the lowest", x.most(1), 1);
+        x.force(NONE);
         due("by the lowest", x.most(0), 900);
         due("1 may ask in vain", x.most(1), 2);
         due("the first in vain", x.mostOf(1), 1);
@@ -614,6 +631,8 @@ public final class PromisesTest {
         due("1 has him", x.steadyOf(2, 0), NONE);
         due("least", x.steadySum(1), 0);
         due("greatest", x.steadySum(0), 600);
+        x.force(NONE);
+        due("as without, for nothing but that changed", x.steady(), 2);
         force(x, "worth 0");
         due("all are alike", x.steady(), 9);
         due("the last", x.steadyOf(8, 0), NONE);
@@ -871,6 +890,15 @@ public final class PromisesTest {
         w.terms(1, -7);
         due("without guests", w.alike(0), -4200);
         due("without guests", w.alike(1), 1);
+        w.guest(0);
+        w.base(0, 0, 1);
+        w.image(0);
+        w.guest(0);
+        w.base(0, 1, 9);
+        due("two guests", w.alike(0), 5400);
+        w.back(0);
+        due("the better one is gone", w.alike(0), 600);
+        due("the better one is gone", w.alike(1), 1);
     }
 
     private static void manners() {
@@ -1198,8 +1226,28 @@ public final class PromisesTest {
         x.row();
         x.image(0);
         x.back(0);
+        imagesOfNames();
         due("fault is not kept", x.fault(), 5);
         due("smudged is not kept", x.smudged(), 1);
+    }
+
+    /** STREETS and WITS of HOSTS and GUESTS who went with BACK and came with it again. */
+    private static void imagesOfNames() {
+        SoleGuest x = street(row(1, 1), row(1, 1));
+        force(x, "worth street*10+wit");
+        x.image(0);
+        x.host(7);
+        x.guest(8);
+        x.image(1);
+        x.back(0);
+        x.host(5);
+        x.guest(6);
+        due("another in their place", x.of(2, 2, 1), 56);
+        x.back(1);
+        due("they came again", x.of(2, 2, 1), 78);
+        x.back(0);
+        due("gone again", x.of(2, 2, 1), NOTHING);
+        due("the others", x.of(1, 1, 1), 22);
     }
 
     private static void counts() {

@@ -15,6 +15,9 @@ final class RandomTexts {
 
     String next() {
         text.setLength(0);
+        if (random.nextInt(12) == 0) {
+            return soup();
+        }
         int clauses = random.nextInt(12) == 0 ? 10 + random.nextInt(5) : 1 + random.nextInt(4);
         for (int i = 0; i < clauses; i++) {
             if (i > 0) put(";");
@@ -22,6 +25,17 @@ final class RandomTexts {
         }
         if (random.nextInt(8) == 0) text.append("   ".substring(random.nextInt(3)));
         if (random.nextInt(4) == 0) spoil();
+        return text.length() > 400 ? text.substring(0, 400) : text.toString();
+    }
+
+    /** TOKENS, or bytes, in any order. */
+    private String soup() {
+        boolean bytes = random.nextBoolean();
+        int length = random.nextInt(400);
+        while (text.length() < length) {
+            if (bytes) text.append((char) random.nextInt(256));
+            else put(random.nextBoolean() ? SPOILS[random.nextInt(SPOILS.length)] : WORDS[random.nextInt(WORDS.length)]);
+        }
         return text.length() > 400 ? text.substring(0, 400) : text.toString();
     }
 
