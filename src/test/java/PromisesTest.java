@@ -49,21 +49,8 @@ public final class PromisesTest {
         CHECKS.same(what, got, want);
     }
 
-    /** HOSTS with STREETS 1, 2 .., GUESTS with WITS 1, 2 .., BASES by rows. */
     private static SoleGuest street(int[]... bases) {
-        SoleGuest x = new SoleGuest();
-        for (int h = 0; h < bases.length; h++) {
-            x.host(h + 1);
-        }
-        for (int g = 0; g < bases[0].length; g++) {
-            x.guest(g + 1);
-        }
-        for (int h = 0; h < bases.length; h++) {
-            for (int g = 0; g < bases[0].length; g++) {
-                x.base(h, g, bases[h][g]);
-            }
-        }
-        return x;
+        return Bench.street(bases);
     }
 
     private static int[] row(int... values) {
@@ -71,20 +58,11 @@ public final class PromisesTest {
     }
 
     private static void feed(SoleGuest x, String text) {
-        int had = x.count(3);
-        for (int i = 0; i < text.length(); i += 20) {
-            int[] v = new int[5];
-            for (int b = 0; b < 20; b++) {
-                v[b / 4] = v[b / 4] << 8 | (i + b < text.length() ? text.charAt(i + b) : 0);
-            }
-            x.feed(v[0], v[1], v[2], v[3], v[4]);
-        }
-        x.end(had + text.length());
+        Bench.feed(x, text);
     }
 
     private static int law(SoleGuest x, String text) {
-        feed(x, text);
-        return x.law();
+        return Bench.law(x, text);
     }
 
     private static void force(SoleGuest x, String text) {
