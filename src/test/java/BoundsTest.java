@@ -712,6 +712,30 @@ public final class BoundsTest {
         due("DICE 0 at first, again", x.dice(2, 3, 0), 0);
         due("MANNER 0 at first, again", x.manner(2, 0), 0);
         due("a LAW anew", Bench.law(x, "worth 1"), 1);
+        imagesKeepLaws();
+    }
+
+    /** Each IMAGE has its own LAWS, from the first to the sixth. */
+    private static void imagesKeepLaws() {
+        SoleGuest x = Bench.street(Bench.row(50));
+        x.image(0);
+        for (int i = 0; i < 6; i++) {
+            due("a LAW", Bench.law(x, "worth " + i), i);
+        }
+        x.image(1);
+        x.back(0);
+        due("no LAWS", x.count(2), 0);
+        for (int i = 0; i < 6; i++) {
+            due("another LAW", Bench.law(x, "worth 1" + i), i);
+        }
+        x.image(0);
+        for (int k = 1; k >= 0; k--) {
+            x.back(k);
+            for (int i = 0; i < 6; i++) {
+                x.force(i);
+                due("LAW " + i + " of IMAGE " + k, x.of(0, 0, 1), k == 1 ? i : 10 + i);
+            }
+        }
     }
 
     private static void imagesKeepNot() {

@@ -39,6 +39,12 @@ public final class DinnerBoundsTest {
         alikeRows();
         alikeFirst();
         whats();
+        turnsOfOneToTheNext();
+        turnsAcross();
+        turnsOfAFullStreet();
+        followsWhatStands();
+        outsideOfYears();
+        fewerAgain();
         CHECKS.close();
     }
 
@@ -751,5 +757,202 @@ public final class DinnerBoundsTest {
         due("steadySum(1)", x.steadySum(1), 360);
         due("rounds(1)", x.rounds(1), 1);
         due("alike(1)", x.alike(1), 1);
+    }
+
+    private static void turnsOfOneToTheNext() {
+        for (int g = 0; g < 5; g++) {
+            SoleGuest x = new SoleGuest();
+            Bench.crowd(x, 5, 6);
+            x.base(4, g, 1);
+            x.base(4, g + 1, 2);
+            x.ask(4, g);
+            due("one ROUND, and one in which nobody did, " + g, x.rounds(0), 2);
+            due("STEADY, " + g, x.rounds(1), 1);
+            due("the next, " + g, x.turned(4), g + 1);
+            due("as TOLD, " + g, x.turned(0), NONE);
+        }
+    }
+
+    /** Behind a ROUND the same GUESTS are asked, but by others: no RING. */
+    private static void turnsAcross() {
+        SoleGuest x = Bench.street(row(1, 2), row(2, 3));
+        x.terms(0, 1);
+        x.ask(0, 0);
+        x.ask(1, 1);
+        due("across, then nobody", x.rounds(0), 2);
+        due("STEADY", x.rounds(1), 1);
+        due("0", x.turned(0), 1);
+        due("1", x.turned(1), 0);
+        SoleGuest y = Bench.street(row(1, 5, 0, 0), row(0, 0, 0, 5), row(0, 0, 5, 0));
+        // 0 1 1 and 1 3 2 are 64 apart, if ASKINGS are told by sevens
+        y.terms(0, 1);
+        y.ask(0, 0);
+        y.ask(1, 1);
+        y.ask(2, 1);
+        due("two ROUNDS", y.rounds(0), 2);
+        due("STEADY", y.rounds(1), 1);
+        due("0", y.turned(0), 1);
+        due("1", y.turned(1), 3);
+        due("2", y.turned(2), 2);
+    }
+
+    private static void turnsOfAFullStreet() {
+        SoleGuest x = new SoleGuest();
+        Bench.crowd(x, 5, 6);
+        Bench.force(x, "worth 9 if host+guest=5");
+        due("all in one ROUND", x.rounds(0), 2);
+        due("STEADY", x.rounds(1), 1);
+        for (int h = 0; h < 5; h++) {
+            due("turned " + h, x.turned(h), 5 - h);
+            x.ask(h, 0);
+        }
+        due("from all at one", x.rounds(0), 2);
+        due("STEADY", x.rounds(1), 1);
+        for (int h = 0; h < 5; h++) {
+            due("turned " + h, x.turned(h), 5 - h);
+            x.ask(h, 5 - h);
+        }
+        due("at once", x.rounds(0), 1);
+        due("STEADY", x.rounds(1), 1);
+        // HOST 3 flees from 4 to 5 and back, as HOST 4 likes neither and asks in vain whom HOST 3 asks
+        SoleGuest y = new SoleGuest();
+        Bench.crowd(y, 5, 6);
+        Bench.force(y, "worth 9 if guest=host and host<3;worth 5 if host=3 and guest>3;worth 0-5 if host=4;"
+            + "bars if host=4 and guest<4");
+        for (int h = 0; h < 3; h++) {
+            y.ask(h, h);
+        }
+        y.ask(3, 4);
+        y.ask(4, 4);
+        due("as ahead of the first, behind two ROUNDS", y.rounds(0), 2);
+        due("a RING", y.rounds(1), 0);
+        due("3", y.turned(3), 4);
+        due("4", y.turned(4), 4);
+        for (int h = 0; h < 3; h++) {
+            due("they stay", y.turned(h), h);
+        }
+    }
+
+    /** What was reckoned once is reckoned anew when anything changes. */
+    private static void followsWhatStands() {
+        SoleGuest x = new SoleGuest();
+        x.terms(1, 2);
+        due("no HOST", x.most(0), 0);
+        due("no HOST", x.steady(), 1);
+        x.host(0);
+        due("a HOST", x.most(0), 120);
+        due("a HOST", x.fair(0), 120);
+        x.guest(0);
+        due("a GUEST", x.most(1), 1);
+        x.base(0, 0, 2);
+        due("BASE of the first", x.most(1), 2);
+        due("BASE of the first", x.steady(), 2);
+        x.base(0, 0, 9);
+        due("BASE of the first", x.most(0), 540);
+        due("BASE of the first", x.mostOf(0), 0);
+        x.guest(0);
+        x.base(0, 1, 9);
+        due("another GUEST", x.most(1), 2);
+        x.host(0);
+        due("another HOST", x.most(0), 660);
+        due("another HOST", x.fair(0), 120);
+        x.base(1, 0, 3);
+        due("BASE of the other", x.most(0), 720);
+        due("BASE of the other", x.fair(0), 180);
+        x.base(0, 1, 1);
+        due("BASE of the first", x.most(0), 540 + 120);
+        x.terms(1, 0);
+        due("LONE", x.most(0), 540);
+        x.terms(0, 1);
+        due("CUSTOM", x.most(1), 3);
+        x.terms(0, 0);
+        due("CUSTOM", x.most(1), 2);
+        Bench.force(x, "bars if host=0 and guest=0");
+        due("a LAW", x.most(0), 240);
+        x.force(NONE);
+        due("no LAW", x.most(0), 540);
+        x.image(0);
+        x.host(0);
+        x.base(2, 1, 50);
+        due("a third HOST", x.most(0), 3540);
+        x.back(0);
+        due("BACK", x.most(0), 540);
+        due("BACK", x.mostOf(2), NONE);
+        x.ask(0, 1);
+        x.dice(0, 0, 4);
+        x.manner(0, 3);
+        x.year(0, 5);
+        due("what is asked doesn't matter", x.most(0), 540);
+    }
+
+    /** met and evening are 0 wherever it is reckoned outside of a YEAR, also behind one. */
+    private static void outsideOfYears() {
+        SoleGuest x = Bench.street(row(1));
+        Bench.force(x, "worth 5+met*9+evening");
+        for (int i = 0; i < 2; i++) {
+            x.ask(0, 0);
+            x.dice(0, 0, 10);
+            due("WORTH", x.of(0, 0, 1), 5);
+            due("GAIN", x.gain(0), 300);
+            due("MOST", x.most(0), 300);
+            due("FAIR", x.fair(0), 300);
+            due("STEADY", x.steadySum(0), 300);
+            due("MEAN", x.mean(0), 3000);
+            due("ALIKE", x.alike(0), 3000);
+            x.terms(1, 5);
+            due("ANSWERS", x.answers(0), 65);
+            due("BY TURNS", x.rounds(0), 1);
+            due("SETS", x.breaker(), NONE);
+            due("REST", x.restless(), NONE);
+            x.terms(1, 0);
+            x.year(0, 7);
+        }
+    }
+
+    /** BACK to fewer HOSTS and GUESTS: those who went bring nothing any more. */
+    private static void fewerAgain() {
+        SoleGuest x = Bench.street(row(1, 2), row(1, 2));
+        x.image(0);
+        for (int g = 2; g < 6; g++) {
+            x.guest(0);
+        }
+        for (int h = 2; h < 5; h++) {
+            x.host(0);
+        }
+        for (int h = 0; h < 5; h++) {
+            for (int g = 2; g < 6; g++) {
+                x.base(h, g, 90);
+            }
+            x.ask(h, 5);
+            x.dice(h, 5, 10);
+        }
+        x.terms(0, 2);
+        due("MOST", x.most(0), 60 * (4 * 90 + 2));
+        due("ALIKE", x.alike(0) > 0 ? 1 : 0, 1);
+        due("MEAN", x.mean(NONE), 5400L * 100000);
+        x.back(0);
+        due("GAIN", x.gain(NONE), 0);
+        due("MOST", x.most(0), 180);
+        due("FAIR", x.fair(0), 60);
+        due("STEADY", x.steadySum(0), 180);
+        due("ANSWERS", x.answers(0), 2);
+        due("BY TURNS", x.turned(0), 1);
+        due("SETS", x.breaks(4), NONE);
+        due("SETS", x.breaker(), 1);
+        due("MEAN", x.mean(NONE), 0);
+        due("REST", x.restless(), 0);
+        // 2 * (t * (10 - t) + 2 * u * (10 - u)): 5 and 5
+        due("ALIKE", x.alike(0), 60 * 2 * 75);
+        due("ALIKE", x.alike(1), 1);
+        due("asked", x.asked(5), NONE);
+        for (int manner = 0; manner <= 5; manner++) {
+            x.manner(0, manner);
+            x.year(0, 3);
+            int asked = x.dined(2, 0, 0);
+            due("none but those who are there, by MANNER " + manner, asked < 2 ? 1 : 0, 1);
+        }
+        x.manner(0, 2);
+        x.year(0, 2);
+        due("hopes for one of those who are there", x.dined(1, 0, 0), 1);
     }
 }

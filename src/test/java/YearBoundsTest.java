@@ -35,6 +35,9 @@ public final class YearBoundsTest {
         dinedBounds();
         earnedBounds();
         settledBounds();
+        fullOfHope();
+        fullOfDice();
+        fullWithoutDraws();
         CHECKS.close();
     }
 
@@ -650,5 +653,59 @@ public final class YearBoundsTest {
         x.ask(1, 0);
         x.year(0, 8);
         due("who dined doesn't matter", x.settled(), 0);
+    }
+
+    /** All find all alike: evening by evening all ask the lowest of those who were asked least. */
+    private static void fullOfHope() {
+        SoleGuest x = new SoleGuest();
+        Bench.crowd(x, 5, 6);
+        Bench.force(x, "worth 5");
+        for (int h = 0; h < 5; h++) {
+            x.manner(h, 2);
+        }
+        due("all alone", x.year(0, 40), 40);
+        for (int e = 0; e < 40; e++) {
+            for (int h = 0; h < 5; h++) {
+                due("HOST " + h + " in " + e, x.dined(e, h, 0), e == 0 ? NONE : (e - 1) % 6);
+            }
+        }
+        due("they change to the last", x.settled(), 39);
+    }
+
+    private static void fullOfDice() {
+        SoleGuest x = new SoleGuest();
+        Bench.crowd(x, 5, 6);
+        Bench.force(x, "worth 5");
+        for (int h = 0; h < 5; h++) {
+            x.manner(h, 3);
+        }
+        due("no TENTHS", x.year(1000000, 40), 40);
+        due("nobody", x.dined(39, 4, 0), NONE);
+        due("nobody", x.settled(), 0);
+        for (int h = 0; h < 5; h++) {
+            x.dice(h, 5, 10);
+        }
+        due("all ask the last", x.year(1000000, 40), 40);
+        due("the last", x.dined(39, 4, 0), 5);
+        due("in vain", x.dined(39, 4, 1), NONE);
+        x.terms(0, 1);
+        due("all ask the last", x.year(1000000, 40), 40);
+        due("the lowest has him", x.earned(0), 300 * 40);
+        due("the next hasn't", x.earned(1), 0);
+    }
+
+    /** Those who ask nobody have no lot drawn for them. */
+    private static void fullWithoutDraws() {
+        SoleGuest x = new SoleGuest();
+        Bench.crowd(x, 5, 6);
+        x.terms(0, 2);
+        x.manner(4, 3);
+        x.dice(4, 5, 2);
+        // rolls 5 1 9 7 0 0
+        x.year(0, 6);
+        int[] want = {NONE, 5, NONE, NONE, 5, 5};
+        for (int e = 0; e < 6; e++) {
+            due("evening " + e, x.dined(e, 4, 1), want[e]);
+        }
     }
 }
