@@ -883,6 +883,12 @@ public final class DinnerBoundsTest {
         x.manner(0, 3);
         x.year(0, 5);
         due("what is asked doesn't matter", x.most(0), 540);
+        SoleGuest y = Bench.street(row(5));
+        due("one GUEST", y.most(0), 300);
+        Bench.force(y, "bars");
+        due("he is BARRED", y.most(0), 0);
+        y.force(NONE);
+        due("he is not", y.most(0), 300);
     }
 
     /** met and evening are 0 wherever it is reckoned outside of a YEAR, also behind one. */
