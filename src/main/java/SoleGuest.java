@@ -253,7 +253,7 @@ public final class SoleGuest {
             return NOTHING;
         }
         surveyAll();
-        return what == 0 ? survey.sums[survey.mostFirst] : survey.mostCount;
+        return what == 0 ? survey.mostSum : survey.mostCount;
     }
 
     public int mostOf(int host) {
@@ -282,10 +282,8 @@ public final class SoleGuest {
             return NONE;
         }
         surveyAll();
-        if (i >= survey.steadyCount) {
-            return NONE;
-        }
-        return shown(survey.askedBy(host, survey.steadyRows[i]));
+        int askings = survey.steadyAt(i);
+        return askings == NONE ? NONE : shown(survey.askedBy(host, askings));
     }
 
     public int steadySum(int what) {
@@ -1344,23 +1342,26 @@ public final class SoleGuest {
 
     /**
      * MOST, FAIR and STEADY of a Table; kept while the next one asked about is like it, for it is dear. ASKINGS are
-     * numbered in their order, without BARRED ones. For each HOST by himself it goes through what the others ask, so
-     * that each GAIN is reckoned once, and stands beside those that he would have by asking otherwise.
+     * numbered in their order, without BARRED ones; nothing but a bit is kept of each, for there are many, and each
+     * new object has rows of its own.
      */
     private static final class Survey {
+        private static final int SETS = 1 << HOST_ROOM;
+        /** Farther from 0 than any sum of GAINS. */
+        private static final int BEYOND_GAINS = 1000000;
+
         private final Table seen = new Table();
         private final Walk walk = new Walk();
         private boolean isMade = false;
-        private int all = 0;
         /** By HOSTS: how far apart ASKINGS are in which he picks the next of his choices, all others as they do. */
         private final int[] strides = new int[HOST_ROOM];
-        /** By numbers of ASKINGS. */
-        private final int[] sums = new int[ALL_ASKINGS];
-        private final int[] leasts = new int[ALL_ASKINGS];
-        private final boolean[] unsteady = new boolean[ALL_ASKINGS];
-        private final int[] steadyRows = new int[ALL_ASKINGS];
-        private final int[] shares = new int[1 << HOST_ROOM];
-        private final int[] gains = new int[CHOICES];
+        /** By cells, and by which HOSTS ask that choice. */
+        private final int[] gains = new int[CELLS * SETS];
+        /** By HOSTS: what none of his choices can exceed, whatever the others ask. */
+        private final int[] tops = new int[HOST_ROOM];
+        /** By numbers of ASKINGS, as bits. */
+        private final long[] steadyOnes = new long[ALL_ASKINGS / 64 + 1];
+        private int mostSum = 0;
         private int mostFirst = 0;
         private int mostCount = 0;
         private int fairLeast = 0;
@@ -1375,102 +1376,130 @@ public final class SoleGuest {
             }
             seen.become(table);
             isMade = true;
-            all = 1;
+            int stride = 1;
             for (int h = seen.hosts - 1; h >= 0; h--) {
-                strides[h] = all;
-                all *= seen.choiceCounts[h];
+                strides[h] = stride;
+                stride *= seen.choiceCounts[h];
+                listGains(h);
             }
+            mostSum = -BEYOND_GAINS;
+            fairLeast = -BEYOND_GAINS;
+            steadyCount = 0;
+            Arrays.fill(steadyOnes, 0L);
+            int everybody = (1 << seen.hosts) - 1;
+            int all = walk.begin(seen, walk.asks, everybody);
             for (int i = 0; i < all; i++) {
-                sums[i] = 0;
-                leasts[i] = Integer.MAX_VALUE;
-                unsteady[i] = false;
+                weigh(i);
+                walk.step(seen, everybody);
             }
-            for (int h = 0; h < seen.hosts; h++) {
-                addHost(h);
+        }
+
+        private void listGains(int host) {
+            tops[host] = SIXTIETHS * seen.lone;
+            for (int i = 0; i < seen.choiceCounts[host]; i++) {
+                int choice = seen.choices[cell(host, i)];
+                tops[host] = Math.max(tops[host], SIXTIETHS * seen.worth[cell(host, choice)]);
+                for (int askers = 0; askers < 1 << seen.hosts; askers++) {
+                    gains[cell(host, choice) * SETS + askers] = seen.gainAmong(host, choice, askers);
+                }
             }
-            findBest();
-            findSteady();
+        }
+
+        private void weigh(int askings) {
+            int[] asks = walk.asks;
+            int[] askers = walk.askers;
+            int hosts = seen.hosts;
+            int sum = 0;
+            int least = BEYOND_GAINS;
+            boolean isSteady = true;
+            for (int h = 0; h < hosts; h++) {
+                int choice = asks[h];
+                int gain = gains[(h * CHOICES + choice) * SETS + askers[choice]];
+                sum += gain;
+                if (gain < least) {
+                    least = gain;
+                }
+                if (isSteady && gain < tops[h]) {
+                    isSteady = isBest(h, gain);
+                }
+            }
+            if (sum >= mostSum) {
+                countMost(askings, sum);
+            }
+            if (least >= fairLeast) {
+                countFair(least);
+            }
+            if (isSteady) {
+                keepSteady(askings, sum);
+            }
+        }
+
+        private boolean isBest(int host, int gain) {
+            int from = cell(host, 0);
+            for (int i = 0; i < seen.choiceCounts[host]; i++) {
+                int choice = seen.choices[from + i];
+                if (gains[(from + choice) * SETS + walk.askers[choice]] > gain) {
+                    return false;
+                }
+            }
+            return true;
+        }
+
+        private void countMost(int askings, int sum) {
+            if (sum > mostSum) {
+                mostSum = sum;
+                mostFirst = askings;
+                mostCount = 0;
+            }
+            mostCount++;
+        }
+
+        private void countFair(int least) {
+            if (least > fairLeast) {
+                fairLeast = least;
+                fairCount = 0;
+            }
+            fairCount++;
+        }
+
+        private void keepSteady(int askings, int sum) {
+            steadyGreatest = steadyCount == 0 ? sum : Math.max(steadyGreatest, sum);
+            steadyLeast = steadyCount == 0 ? sum : Math.min(steadyLeast, sum);
+            steadyCount++;
+            if (askings >> 6 < steadyOnes.length) {
+                steadyOnes[askings >> 6] |= 1L << (askings & 63);
+            }
+        }
+
+        /** The number of the i-th ASKINGS that are STEADY; NONE, if there are not so many. */
+        private int steadyAt(int i) {
+            int ahead = 0;
+            for (int word = 0; word < steadyOnes.length; word++) {
+                int here = Long.bitCount(steadyOnes[word]);
+                if (ahead + here > i) {
+                    return word * 64 + bitAt(steadyOnes[word], i - ahead);
+                }
+                ahead += here;
+            }
+            return NONE;
+        }
+
+        private static int bitAt(long bits, int i) {
+            int ahead = 0;
+            for (int place = 0; place < 64; place++) {
+                if ((bits >> place & 1) == 1) {
+                    if (ahead == i) {
+                        return place;
+                    }
+                    ahead++;
+                }
+            }
+            return 0;
         }
 
         private int askedBy(int host, int askings) {
             int pick = askings / Math.max(1, strides[host]) % Math.max(1, seen.choiceCounts[host]);
             return seen.choices[cell(host, pick)];
-        }
-
-        private void addHost(int host) {
-            for (int askers = 0; askers < shares.length; askers++) {
-                shares[askers] = seen.shareAmong(host, askers);
-            }
-            int others = (1 << seen.hosts) - 1 & ~(1 << host);
-            int rows = walk.begin(seen, walk.asks, others);
-            for (int i = 0; i < rows; i++) {
-                int first = 0;
-                for (int h = 0; h < seen.hosts; h++) {
-                    first += h == host ? 0 : walk.picks[h] * strides[h];
-                }
-                addChoices(host, first);
-                walk.step(seen, others);
-            }
-        }
-
-        private void addChoices(int host, int first) {
-            int count = seen.choiceCounts[host];
-            int stride = strides[host];
-            int alone = SIXTIETHS * seen.lone;
-            int best = alone;
-            int at = first;
-            for (int i = 0; i < count; i++) {
-                int cell = host * CHOICES + i;
-                int choice = seen.choices[cell];
-                int gain = shares[walk.askers[choice]] * (seen.worth[cell - i + choice] - seen.lone) + alone;
-                gains[i] = gain;
-                sums[at] += gain;
-                if (gain < leasts[at]) {
-                    leasts[at] = gain;
-                }
-                if (gain > best) {
-                    best = gain;
-                }
-                at += stride;
-            }
-            at = first;
-            for (int i = 0; i < count; i++) {
-                if (gains[i] < best) {
-                    unsteady[at] = true;
-                }
-                at += stride;
-            }
-        }
-
-        private void findBest() {
-            mostFirst = 0;
-            mostCount = 0;
-            fairLeast = leasts[0];
-            fairCount = 0;
-            for (int i = 0; i < all; i++) {
-                if (sums[i] > sums[mostFirst]) {
-                    mostFirst = i;
-                    mostCount = 0;
-                }
-                if (leasts[i] > fairLeast) {
-                    fairLeast = leasts[i];
-                    fairCount = 0;
-                }
-                mostCount += sums[i] == sums[mostFirst] ? 1 : 0;
-                fairCount += leasts[i] == fairLeast ? 1 : 0;
-            }
-        }
-
-        private void findSteady() {
-            steadyCount = 0;
-            for (int i = 0; i < all; i++) {
-                if (!unsteady[i]) {
-                    steadyGreatest = steadyCount == 0 ? sums[i] : Math.max(steadyGreatest, sums[i]);
-                    steadyLeast = steadyCount == 0 ? sums[i] : Math.min(steadyLeast, sums[i]);
-                    steadyRows[steadyCount] = i;
-                    steadyCount++;
-                }
-            }
         }
     }
 

@@ -30,7 +30,7 @@ public final class LanguageTest {
         Matcher library = Pattern.compile("\\b(Arrays|System|Math|Integer|Long)\\.(\\w+)").matcher(bare);
         while (library.find()) {
             checks.isSo("library's " + library.group(), library.group().matches(
-                "Arrays\\.(fill|copyOf|copyOfRange)|System\\.arraycopy|Math\\.(min|max|abs)|Integer\\.(bitCount|MAX_VALUE)"));
+                "Arrays\\.(fill|copyOf|copyOfRange)|System\\.arraycopy|Math\\.(min|max|abs)|(Integer|Long)\\.bitCount"));
         }
         checkStatics(checks, bare);
         checkLengths(checks, bare);

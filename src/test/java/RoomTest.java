@@ -1,14 +1,24 @@
 import java.lang.management.ManagementFactory;
+import java.lang.reflect.Array;
+import java.lang.reflect.Field;
+import java.lang.reflect.Modifier;
+import java.util.ArrayList;
+import java.util.IdentityHashMap;
+import java.util.List;
+import java.util.Map;
 
 /**
- * What a run makes is never given back in the one room of a run: some 600,000 objects, 7.3 million elements. Bytes
- * stand for both here: a run that makes fewer bytes than its least share of either can't have made too many.
+ * What a run makes is never given back in the one room of a run: some 600,000 objects and arrays, 7.3 million fields
+ * and elements. What a new object takes up is counted, for a run may be nothing but new objects; of the other calls
+ * bytes stand for both: a run that makes fewer bytes than its least share of either can't have made too many.
  */
 public final class RoomTest {
     private static final int CALLS = 512;
     private static final long MOST_BYTES = 2000000;
+    private static final long MOST_OBJECTS = 600000;
+    private static final long MOST_ELEMENTS = 7300000;
 
-    public static void main(String[] args) {
+    public static void main(String[] args) throws ReflectiveOperationException {
         Checks checks = new Checks("RoomTest");
         com.sun.management.ThreadMXBean bean =
             (com.sun.management.ThreadMXBean) ManagementFactory.getThreadMXBean();
@@ -19,7 +29,49 @@ public final class RoomTest {
             long made = bean.getThreadAllocatedBytes(Thread.currentThread().getId()) - before;
             checks.isSo("kind " + kind + " makes " + made + " bytes", made < MOST_BYTES);
         }
+        checkNewObject(checks);
         checks.close();
+    }
+
+    private static void checkNewObject(Checks checks) throws ReflectiveOperationException {
+        Map<Object, Object> seen = new IdentityHashMap<>();
+        List<Object> found = new ArrayList<>();
+        note(new SoleGuest(), seen, found);
+        long elements = 0;
+        for (int i = 0; i < found.size(); i++) {
+            elements += sizeOf(found.get(i), seen, found);
+        }
+        checks.isSo("a new object is " + found.size() + " objects", found.size() * CALLS < MOST_OBJECTS);
+        checks.isSo("a new object is " + elements + " fields and elements", elements * CALLS < MOST_ELEMENTS);
+    }
+
+    private static void note(Object object, Map<Object, Object> seen, List<Object> found) {
+        if (object != null && seen.put(object, object) == null) {
+            found.add(object);
+        }
+    }
+
+    private static long sizeOf(Object object, Map<Object, Object> seen, List<Object> found)
+        throws ReflectiveOperationException {
+        Class<?> kind = object.getClass();
+        if (kind.isArray()) {
+            int length = Array.getLength(object);
+            for (int i = 0; i < length && !kind.getComponentType().isPrimitive(); i++) {
+                note(Array.get(object, i), seen, found);
+            }
+            return length;
+        }
+        long fields = 0;
+        for (Field field : kind.getDeclaredFields()) {
+            if (!Modifier.isStatic(field.getModifiers())) {
+                fields++;
+                field.setAccessible(true);
+                if (!field.getType().isPrimitive()) {
+                    note(field.get(object), seen, found);
+                }
+            }
+        }
+        return fields;
     }
 
     private static void run(int kind) {
